@@ -1525,7 +1525,7 @@ public final class StuckGroove {
         }
 
         /** Adds to ways, in hundreds for each TURN, how likely the needle comes to a place (or OUT). */
-        void spread(int left, long weight, int target) {
+        private void spread(int left, long weight, int target) {
             int g = needle.place;
             if (left <= 0 || g < 0 || g >= sheet.grooves) {
                 ways += g == target ? weight * hundreds(left) : 0;

@@ -1,4 +1,5 @@
 import java.math.BigInteger;
+import java.nio.charset.StandardCharsets;
 import java.util.ArrayDeque;
 import java.util.ArrayList;
 import java.util.Deque;
@@ -80,14 +81,14 @@ final class Model {
                     while (p < bytes.length && bytes[p] >= 'a' && bytes[p] <= 'z') {
                         p++;
                     }
-                    String word = new String(bytes, 0, from, p - from);
+                    String word = new String(bytes, from, p - from, StandardCharsets.ISO_8859_1);
                     String kind = WORDS.contains(word) ? word : word.length() > 6 ? "wrong" : "word";
                     tokens.add(new Token(kind, word, from));
                 } else if (c >= '0' && c <= '9') {
                     while (p < bytes.length && bytes[p] >= '0' && bytes[p] <= '9') {
                         p++;
                     }
-                    tokens.add(new Token("number", new String(bytes, 0, from, p - from), from));
+                    tokens.add(new Token("number", new String(bytes, from, p - from, StandardCharsets.ISO_8859_1), from));
                 } else {
                     String sign = "" + (char) c;
                     if (p < bytes.length && ((c == '<' || c == '>') && bytes[p] == '=' || c == '<' && bytes[p] == '>')) {
