@@ -25,6 +25,7 @@ public final class AskTest {
         tamed();
         chances();
         tries();
+        fromNowOn();
         nothingIsDone();
         CHECK.close("AskTest");
     }
@@ -98,6 +99,20 @@ public final class AskTest {
         likely(Check.told("groove 1 1;scrat 0 60 1 0 1;law back 50 + turn * 25;"), 2, 0, 3, 8);
         likely(Check.told("groove 5 1;scrat 0 60 1 0 1;law back heard * 10;"), 2, 0, 1, 2);
         likely(Check.told("groove 1 1;scrat 0 60 1 0 1;law back 33;"), 7, 0, 42618442977L, 100000000000000L);
+        // Each way has the TURNS, the SECONDS and the wear of its own.
+        likely(Check.told("groove 1 1;groove 1 1;scrat 1 0 1 0 1;law back turn * 50;"), 2, 0, 1, 2);
+        likely(Check.told("groove 1 1;groove 1 1;scrat 0 0 1 0 1;scrat 1 0 1 0 1;law back (place = 0) * 50 + place * turn * 30;"),
+            2, 2, 7, 20);
+        likely(Check.told("groove 9 1;groove 1 1;scrat 0 0 1 0 1;scrat 1 0 1 0 1;law back (place = 0) * 50 + place * heard * 3;"),
+            2, 2, 7, 20);
+        StuckGroove y = Check.told("groove 1 1;groove 1 1;groove 1 1;scrat 1 0 1 0 1;scrat 2 0 1 0 1;"
+            + "law back (place = 1) * 50 + (place = 2) * turn * 30;");
+        y.nudge(1);
+        likely(y, 2, 3, 7, 20);
+        y = Check.told("groove 1 1;scrat 0 0 1 10 9;law back 50 - worn * 10;");
+        likely(y, 1, 0, 1, 2);
+        likely(y, 2, 0, 1, 5);
+        likely(y, 3, 1, 47, 50);
         x.nudge(9);
         likely(x, 3, 2, 1, 1);
         likely(x, 3, 0, 0, 1);
@@ -141,6 +156,11 @@ public final class AskTest {
         CHECK.due("by none", x.when(1, 0), -2);
         CHECK.due("by none, seconds", x.when(1, 1), -2);
         CHECK.due("by 2", x.when(2, 1), 12);
+        String twoStuck = "groove 1 1;groove 1 1;scrat 0 0 1 0 1;scrat 1 0 1 0 1;guest a 1 9 1;";
+        x = Check.told(twoStuck + "law back (turn < 198) * 100;");
+        CHECK.due("in 200 TURNS from now", x.when(1, 1), 200);
+        x = Check.told(twoStuck + "law back (turn < 199) * 100;");
+        CHECK.due("not in 200 TURNS from now", x.when(1, 1), -2);
         // It gets from GROOVE 0 to 1, or OUT of GROOVE 3, in one TURN alone.
         String late = "groove 1 1;groove 1 1;groove 9 1;groove 9 1;scrat 0 0 1 0 1;scrat 1 0 1 0 1;scrat 3 0 9 0 1;";
         x = Check.told(late + "law back (turn <> 19) * 100;");
@@ -323,6 +343,9 @@ public final class AskTest {
         CHECK.due("by a greater FAR", x.bestRule(60, 1), 3);
         CHECK.due("ROUNDS", x.bestRule(60, 0), 1);
         CHECK.due("HEARD", x.bestRule(60, 2), 9);
+        x = Check.told(Check.times("groove 1 0;", 9) + "groove 1 9;scrat 0 0 1 0 1;scrat 8 0 9 0 1;law back 100;");
+        CHECK.due("by FAR 9 alone", x.bestRule(60, 1), 9);
+        CHECK.due("by ROUNDS 1", x.bestRule(60, 0), 1);
     }
 
     private static void getsUp() {
@@ -399,6 +422,30 @@ public final class AskTest {
         x = Check.told("groove 1 1;groove 1 1;groove 1 1;scrat 1 0 1 0 1;scrat 2 0 2 0 1;guest a 2 9 1;law back (place = 2) * 100;");
         CHECK.due("ROUNDS are 0 behind SCRATCH 0", x.out(200, 0), -2);
         CHECK.due("without it they stay", x.tried(2, 0, 200), 6);
+    }
+
+    /** From a later TURN on, what is asked is more than there was. */
+    private static void fromNowOn() {
+        StuckGroove x = Check.told("groove 3 4;groove 3 4;scrat 0 0 1 0 1;law back 100;guest a 1 0 2;guest b 9 9 9;");
+        x.go(5);
+        CHECK.promise(14);
+        CHECK.due("out(4, 1)", x.out(4, 1), 12);
+        CHECK.due("out(4, 2)", x.out(4, 2), 16);
+        CHECK.due("out(4, 3)", x.out(4, 3), 8);
+        CHECK.promise(18);
+        CHECK.due("when(1, 1)", x.when(1, 1), 3);
+        CHECK.promise(21);
+        CHECK.due("rests(0, 1)", x.rests(0, 1), 1);
+        CHECK.due("rest(0, 1, 0)", x.rest(0, 1, 0), 1);
+        CHECK.promise(27);
+        CHECK.due("rule(2, 1, 9)", x.rule(2, 1, 9), 12);
+        CHECK.promise(28);
+        CHECK.due("bestRule(3, 2)", x.bestRule(3, 2), 12);
+        CHECK.promise(29);
+        CHECK.due("gets(0, 3)", x.gets(0, 3), 3);
+        CHECK.promise(36);
+        CHECK.due("tried(2, 0, 9)", x.tried(2, 0, 9), 8);
+        CHECK.due("tried(0, 0, 9)", x.tried(0, 0, 9), 36);
     }
 
     /** What is asked changes nothing. */

@@ -138,6 +138,13 @@ public final class PlayTest {
         value("10 - 3 - 2", 5);
         value("100 / 10 / 5", 2);
         value("100 / 10 * 5", 50);
+        value("7 * 3 / 2", 10);
+        value("7 - 3 + 2", 6);
+        value("3 <= 2 + 1", 1);
+        value("3 <> 2 + 1", 0);
+        value("3 >= 2 + 2", 0);
+        value("3 > 1 + 1", 1);
+        value("3 = 2 + 1", 1);
         value("(0 - 7) / 2", -3);
         value("7 / (0 - 2)", -3);
         value("not 0", 1);
@@ -356,10 +363,42 @@ public final class PlayTest {
         x.weigh(9);
         x.go(1);
         CHECK.due("a TURN went by", x.undo(), -1);
+        manyUndone();
         x.nudge(9);
         x.go(1);
         CHECK.due("a TURN went by though it is OUT", x.undo(), -1);
         CHECK.due("still OUT", x.count(5), -2);
+    }
+
+    /** Of 30 things each of the last 20 is undone to what was ahead of it. */
+    private static void manyUndone() {
+        StuckGroove x = Check.told(FIVE + "scrat 1 100 1 0 1;law back 100;");
+        x.go(2);
+        int[][] ahead = new int[30][3];
+        for (int i = 0; i < 30; i++) {
+            ahead[i] = new int[] {x.count(5), x.count(9), x.count(10)};
+            if (i < 15) {
+                x.weigh(4 + i % 2);
+            } else {
+                x.nudge(i % 3 == 0 ? -2 : 1);
+            }
+        }
+        for (int i = 29; i >= 10; i--) {
+            CHECK.due("undo() of " + i, x.undo(), i - 10);
+            CHECK.due("place ahead of " + i, x.count(5), ahead[i][0]);
+            CHECK.due("rounds ahead of " + i, x.count(9), ahead[i][1]);
+            CHECK.due("weight ahead of " + i, x.count(10), ahead[i][2]);
+        }
+        CHECK.due("rounds", x.count(9), 1);
+        CHECK.due("undo() of no more", x.undo(), -1);
+        x = Check.told(FIVE);
+        for (int i = 0; i < 21; i++) {
+            x.nudge(i % 2 == 0 ? 3 : -3);
+        }
+        for (int i = 0; i < 20; i++) {
+            x.undo();
+            CHECK.due("place behind " + i, x.count(5), i % 2 == 0 ? 0 : 3);
+        }
     }
 
     private static void images() {

@@ -11,6 +11,8 @@ public final class TextTest {
         lines();
         grammarOfE();
         bounds();
+        cuts();
+        oneObject();
         toldAlready();
         naming();
         CHECK.close("TextTest");
@@ -113,6 +115,13 @@ public final class TextTest {
         faulty("groove 1 1", 1, 10);
         faulty("groove 1 1  ", 1, 12);
         faulty("groove 1;", 1, 8);
+        faulty("groove;", 1, 6);
+        faulty("scrat;", 1, 5);
+        faulty("guest;", 1, 5);
+        faulty("guest a;", 1, 7);
+        faulty("price;", 1, 5);
+        faulty("seed;", 1, 4);
+        faulty("law;", 1, 3);
         faulty("groove 1 1 1;", 1, 11);
         faulty("groove 1 a;", 1, 9);
         faulty("groove\t1 1;", 1, 6);
@@ -226,6 +235,48 @@ public final class TextTest {
         faulty("law back 1" + Check.times("+1", 31) + ";law wear 2 2;", 1, 84);
         faulty("law back " + Check.times("not ", 65) + "1;", 2, 265);
         faulty("law back " + Check.times("not ", 64) + "and;", 1, 265);
+    }
+
+    /** Nothing behind the first n bytes counts. */
+    private static void cuts() {
+        StuckGroove x = new StuckGroove();
+        String[] texts = {"arm 12;", "guest sevenss", "law back 1 <= 2;", "law back 1 < 2;"};
+        int[] lengths = {5, 12, 12, 11};
+        for (int i = 0; i < texts.length; i++) {
+            Check.feed(x, texts[i]);
+            CHECK.due("'" + texts[i] + "' cut at " + lengths[i], x.text(lengths[i]), -1);
+            CHECK.due("'" + texts[i] + "' cut, fault(0)", x.fault(0), 1);
+            CHECK.due("'" + texts[i] + "' cut, fault(1)", x.fault(1), lengths[i]);
+        }
+        for (String end : new String[] {"1", "x", "<", ">", " ", ";", "$"}) {
+            Check.feed(x, Check.times("seed 1;   ", 1) + Check.times(" ", 689) + end);
+            CHECK.due("700 bytes with '" + end + "' last", x.text(700), end.equals(" ") ? 1 : -1);
+            CHECK.due("their fault's place", x.fault(1), end.equals(" ") ? -1 : 699);
+        }
+        String law = "law worth " + Check.times(" ", 685) + "1 < 2";
+        Check.feed(x, law);
+        CHECK.due("700 bytes of a law", x.text(700), -1);
+        CHECK.due("700 bytes of a law, the length", x.fault(1), 700);
+    }
+
+    /** Texts one behind another on one object, right and wrong ones, leave nothing of one another. */
+    private static void oneObject() {
+        StuckGroove x = new StuckGroove();
+        for (int i = 0; i < 8; i++) {
+            String law = "groove 1 " + i + ";law worth " + i + Check.times("+1", 31) + "* 2;";
+            CHECK.due("65 knots", Check.tell(x, law), -1);
+            law = "groove 1 " + i + ";law worth " + i + Check.times("+1", 31) + ";law back ";
+            CHECK.due("64 knots and more", Check.tell(x, law + (i % 2 == 0 ? "1+1;" : "((1;")), -1);
+            CHECK.due("64 knots", Check.tell(x, law + "1;"), 3);
+            CHECK.due("64 knots worked out", x.law(2, 0), i + 31);
+            CHECK.due("count(3)", x.count(3), 64);
+            CHECK.due("arm, price and seed", Check.tell(x, "arm 1;price 9 1;seed 7;"), 3);
+            CHECK.due("needle", x.needle(9), 4);
+            CHECK.due("no more of them", Check.tell(x, "groove 1 1;"), 1);
+            CHECK.due("needle", x.needle(9), 1);
+            CHECK.due("weight", x.count(10), 3);
+            CHECK.due("law", x.law(2, 0), Long.MIN_VALUE);
+        }
     }
 
     private static void toldAlready() {
