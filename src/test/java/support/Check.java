@@ -7,6 +7,11 @@ final class Check {
         about = "promise " + number + ": ";
     }
 
+    /** The document's sentence that the next answers are about. */
+    void sentence(String words) {
+        about = "'" + words + "': ";
+    }
+
     void due(String call, long got, long want) {
         if (got != want) {
             wrong++;
@@ -16,6 +21,13 @@ final class Check {
 
     void due(String call, boolean got, boolean want) {
         due(call, got ? 1 : 0, want ? 1 : 0);
+    }
+
+    void due(String call, String got, String want) {
+        if (!got.equals(want)) {
+            wrong++;
+            System.out.println(about + call + " answered " + got + ", due is " + want);
+        }
     }
 
     /** Ends the test: exit code 1, if an answer was wrong. */
@@ -55,5 +67,37 @@ final class Check {
 
     static String times(String bit, int n) {
         return bit.repeat(n);
+    }
+
+    /** All that can be asked of the state: nothing of it changes by a refused call. */
+    static String state(StuckGroove x) {
+        StringBuilder told = new StringBuilder();
+        for (int what = 0; what <= 13; what++) {
+            told.append(x.count(what)).append(' ');
+        }
+        for (int g = 0; g < x.count(0); g++) {
+            told.append(x.groove(g, 2)).append(' ');
+        }
+        for (int s = 0; s < x.count(1); s++) {
+            told.append(x.scratch(s, 5)).append(' ');
+        }
+        for (int g = 0; g < x.count(2); g++) {
+            told.append(x.guest(g, 3)).append(' ');
+        }
+        return told.toString();
+    }
+
+    /** A seed of a TEXT whose first number is so modulo 100. */
+    static int seedFor(int hundredth) {
+        for (int seed = 0; seed <= 99999; seed++) {
+            if (firstNumber(seed) % 100 == hundredth) {
+                return seed;
+            }
+        }
+        throw new IllegalStateException("no such seed");
+    }
+
+    private static long firstNumber(int seed) {
+        return (seed * 1103515245L + 12345L) % 2147483648L / 65536;
     }
 }
