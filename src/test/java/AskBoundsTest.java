@@ -16,6 +16,7 @@ public final class AskBoundsTest {
         turnsOfLikely();
         groovesOfLikely();
         likelyInLeastTerms();
+        likelyByEachWay();
         whatsOfLight();
         lightByNone();
         lightFirstOfSeveral();
@@ -27,10 +28,13 @@ public final class AskBoundsTest {
         sixtyPlays();
         turnsOfAPlay();
         farsOfMissed();
+        missedOfTwelve();
         missedBetween();
         guestsWhoWait();
         restsThatThereAre();
         waitsOf99Seconds();
+        waitsOfEach();
+        waitsFromNowOn();
         waitsOf200Turns();
         turnsOfNeedle();
         needleFirstOfSeveral();
@@ -48,6 +52,7 @@ public final class AskBoundsTest {
         tenTimesOfChance();
         numbersOfTried();
         scratchesOfTried();
+        eachCallForItself();
         CHECK.close("AskBoundsTest");
     }
 
@@ -193,6 +198,28 @@ public final class AskBoundsTest {
         CHECK.due("100 to the 7", x.likely(7, 0, 1), 100000000000000L);
         CHECK.due("100 to the 7 less 99 to the 7", x.likely(7, 1, 0), 6793465209301L);
         CHECK.due("by all ways without GUESTS", Check.told(STUCK + "guest a 1 9 1;").likely(7, 0, 0), 1);
+    }
+
+    /** A SCRATCH that one way wore is as it was on another one. */
+    private static void likelyByEachWay() {
+        CHECK.sentence("LIKELY .. by all ways of SCRATCHES, exactly");
+        // BACK to 0 (50), then 0 to 1 (not WORN there); ON to 3 (50): SCRATCH 1 is new on it.
+        StuckGroove x = Check.told("groove 1 1;groove 1 1;groove 1 1;groove 1 1;scrat 0 0 1 100 2;scrat 2 0 2 50 1;scrat 3 0 3 0 1;"
+            + "law back (place = 2) * 50 + (place = 3) * 50 + (place = 0) * 25 - worn * 10;");
+        long[][] due = {{1, 4}, {0, 1}, {3, 4}, {0, 1}, {0, 1}};
+        for (int g = 0; g <= 4; g++) {
+            CHECK.due("behind 1, above " + g, x.likely(1, g, 0), due[g][0]);
+            CHECK.due("behind 1, below " + g, x.likely(1, g, 1), due[g][1]);
+        }
+        // 0 again by 0.25 * 0.15 and, from 2, by 0.75 * 0.5; on 3 by 0.75 * 0.5; on 2 by 0.25 * 0.85.
+        long[][] two = {{33, 80}, {0, 1}, {17, 80}, {3, 8}, {0, 1}};
+        for (int g = 0; g <= 4; g++) {
+            CHECK.due("behind 2, above " + g, x.likely(2, g, 0), two[g][0]);
+            CHECK.due("behind 2, below " + g, x.likely(2, g, 1), two[g][1]);
+        }
+        // 0: 0.25 * 0.15 * 0.05 + 0.375 * 0.15 + 0.2125 * 0.5 + 0.375 * 0.5.
+        CHECK.due("behind 3, above 0", x.likely(3, 0, 0), 563);
+        CHECK.due("behind 3, below 0", x.likely(3, 0, 1), 1600);
     }
 
     private static void whatsOfLight() {
@@ -352,6 +379,22 @@ public final class AskBoundsTest {
         CHECK.due("without GROOVES", new StuckGroove().missed(1), -1);
     }
 
+    private static void missedOfTwelve() {
+        CHECK.sentence("MISSED .. the one it comes to (beyond the last one OUT)");
+        StuckGroove x = Check.told(Check.times("groove 1 9;", 12));
+        x.nudge(9);
+        int[] due = {0, 9, 18, 18, 18, 18, 18, 18, 18};
+        for (int far = 1; far <= 9; far++) {
+            CHECK.due("from 9 by " + far, x.missed(far), due[far - 1]);
+        }
+        x.nudge(2);
+        CHECK.due("from 11 by 9", x.missed(9), 0);
+        for (int time = 0; time < 2; time++) {
+            Check.tell(x, "groove 1 9;groove 1 9;");
+            CHECK.due("of two GROOVES told anew", x.missed(9), 9);
+        }
+    }
+
     private static void missedBetween() {
         CHECK.sentence("the WORTH told of GROOVES between the one it is in and the one it comes to, both not counted");
         int[][] due = {{0, 2, 5, 9, 14, 14}, {0, 3, 7, 12, 12, 12}, {0, 4, 9, 9, 9, 9}, {0, 5, 5, 5, 5, 5}, {0, 0, 0, 0, 0, 0}};
@@ -424,6 +467,29 @@ public final class AskBoundsTest {
         // Behind a NUDGE likewise: from GROOVE 1 it waits 99 at most, from GROOVE 0 as many.
         StuckGroove x = Check.told("groove 1 1;groove 1 1;scrat 0 0 1 0 1;scrat 1 0 1 0 1;law back (turn < 150) * 100;guest a 1 1 0;guest b 1 1 0;");
         CHECK.due("all lose 99", x.rests(0, 1), 4);
+    }
+
+    private static void waitsOfEach() {
+        CHECK.sentence("A REST: neither would lose less otherwise");
+        // COSTS of a and b, how many RESTS, the first one: each would get up for less than the 50 that it waits.
+        int[][] due = {{99, 49, 1, 1}, {99, 50, 2, 0}, {99, 51, 1, 0}, {49, 99, 1, 10}, {50, 99, 2, 0}, {51, 99, 1, 0}, {49, 49, 2, 1}};
+        for (int[] row : due) {
+            StuckGroove x = Check.told(outIn(50) + "guest a 1 9 " + row[0] + ";guest b 1 9 " + row[1] + ";");
+            CHECK.due("COSTS of " + row[0] + " and " + row[1], x.rests(0, 1), row[2]);
+            CHECK.due("COSTS of " + row[0] + " and " + row[1] + ", the first one", x.rest(0, 1, 0), row[3]);
+        }
+    }
+
+    private static void waitsFromNowOn() {
+        CHECK.sentence("WAIT .. now: .. SECONDS until it is OUT");
+        StuckGroove x = Check.told(Check.times("groove 9 1;", 12) + "guest a 1 9 99;guest b 1 9 18;");
+        x.go(7);
+        int[][] due = {{1, 1}, {1, 1}, {1, 1}, {2, 0}, {1, 0}};
+        for (int turn = 0; turn < 5; turn++) {
+            CHECK.due((45 - 9 * turn) + " SECONDS are left", x.rests(0, 1), due[turn][0]);
+            CHECK.due((45 - 9 * turn) + " SECONDS are left, the first one", x.rest(0, 1, 0), due[turn][1]);
+            x.go(1);
+        }
     }
 
     private static void waitsOf200Turns() {
@@ -583,6 +649,8 @@ public final class AskBoundsTest {
             CHECK.due("FAR by FAR " + far, x.bestRule(60, 1), far);
             CHECK.due("HEARD by FAR " + far, x.bestRule(60, 2), 9);
         }
+        x = Check.told(Check.times("groove 1 0;", 10) + "groove 1 9;scrat 0 0 1 0 1;scrat 9 0 9 0 1;law back 100;");
+        CHECK.due("by FAR 10 alone", x.bestRule(60, 2), 0);
         CHECK.due("without GROOVES, ROUNDS", new StuckGroove().bestRule(60, 0), 1);
         CHECK.due("without GROOVES, FAR", new StuckGroove().bestRule(60, 1), 1);
     }
@@ -710,5 +778,56 @@ public final class AskBoundsTest {
         CHECK.due("WEIGHT 9", x.tried(3, 0, 50), 50);
         CHECK.due("WEIGHT 0", x.tried(4, 0, 50), 1);
         CHECK.due("the WEIGHT stays", x.count(10), 1);
+        x = Check.told(ONE + "law back (heavy <> 9) * 100;");
+        CHECK.due("WEIGHT 9 and no other", x.tried(3, 0, 50), 1);
+        x = Check.told(ONE + "groove 1 1;scrat 1 0 1 0 1;arm 5;law back (heavy <> 5) * 100;");
+        CHECK.due("without a SCRATCH the WEIGHT is as it is", x.tried(2, 0, 50), 2);
+        CHECK.due("without GUESTS too", x.tried(0, 0, 50), 2);
+        CHECK.due("without wear too", x.tried(1, 0, 50), 2);
+    }
+
+    /** What one call tries otherwise is as told for the next one. */
+    private static void eachCallForItself() {
+        CHECK.sentence("as it goes, with GUESTS, as WORN and told, whatever was asked ahead");
+        String told = "groove 1 1;groove 1 2;groove 1 3;groove 1 4;scrat 1 70 1 0 1;scrat 2 75 1 0 1;guest a 4 1 1;guest b 9 1 1;arm 0;seed 5;";
+        for (int ahead = 0; ahead <= 12; ahead++) {
+            StuckGroove x = Check.told(told);
+            StuckGroove y = Check.told(told);
+            ask(x, ahead);
+            CHECK.due("behind " + ahead + ", out(200, 2)", x.out(200, 2), 54);
+            ask(x, ahead);
+            CHECK.due("behind " + ahead + ", gets(0, 200)", x.gets(0, 200), y.gets(0, 200));
+            ask(x, ahead);
+            CHECK.due("behind " + ahead + ", likely(5, 1, 0)", x.likely(5, 1, 0), y.likely(5, 1, 0));
+            ask(x, ahead);
+            CHECK.due("behind " + ahead + ", tames(0)", x.tames(0), y.tames(0));
+            ask(x, ahead);
+            CHECK.due("behind " + ahead + ", scratch(0, 6)", x.scratch(0, 6), 70);
+            ask(x, ahead);
+            x.go(30);
+            y.go(30);
+            CHECK.due("behind " + ahead + ", go(30)", Check.state(x), Check.state(y));
+            x.anew();
+            y.anew();
+            CHECK.due("behind go(30), out(200, 2)", x.out(200, 2), y.out(200, 2));
+        }
+    }
+
+    private static void ask(StuckGroove x, int which) {
+        switch (which) {
+            case 0: x.loop(); break;
+            case 1: x.chance(3, 9); break;
+            case 2: x.tried(1, 0, 50); break;
+            case 3: x.tried(2, 0, 50); break;
+            case 4: x.tried(3, 0, 50); break;
+            case 5: x.threw(0); break;
+            case 6: x.threw(1); break;
+            case 7: x.rule(1, 1, 50); break;
+            case 8: x.light(0); break;
+            case 9: x.when(1, 0); break;
+            case 10: x.plays(); break;
+            case 11: x.rests(0, 1); break;
+            default: x.go(0);
+        }
     }
 }

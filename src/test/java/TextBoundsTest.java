@@ -402,6 +402,11 @@ public final class TextBoundsTest {
         y.go(1);
         CHECK.due("without", x.count(5), 0);
         CHECK.due("seed 99999", y.count(5), -2);
+        for (int i = 0; i < 3; i++) {
+            Check.tell(y, text);
+            y.go(1);
+            CHECK.due("told anew without", y.count(5), 0);
+        }
     }
 
     private static void numbersOfE() {
@@ -470,6 +475,13 @@ public final class TextBoundsTest {
         CHECK.due("31 + 31 + 2", x.count(3), 64);
         faulty(laws + "1+1;", 2, laws.length() + 2);
         faulty(laws + "not not 1;", 2, laws.length() + 8);
+        // All of them wait for the last one, in as many '(' as may be open.
+        for (int nots = 55; nots <= 63; nots++) {
+            String law = "groove 1 1;law worth " + Check.times("not ", nots) + "1;";
+            CHECK.due(nots + " not", Check.told(law).law(2, 0), nots % 2 == 0 ? 1 : 0);
+            law = "groove 1 1;law worth " + Check.times("(", 8) + Check.times("not ", nots) + "1" + Check.times(")", 8) + ";";
+            CHECK.due(nots + " not in eight", Check.told(law).law(2, 0), nots % 2 == 0 ? 1 : 0);
+        }
         CHECK.sentence("KNOT (N, NAMES, signs, not, and, or: one each)");
         CHECK.due("'(' and ')' are none", Check.told("law back (((((1)))))+(1);").count(3), 3);
         CHECK.due("one each", Check.told("law back not 1 + worn or 2 <= 3 and 4;").count(3), 10);

@@ -14,6 +14,7 @@ public final class TurnBoundsTest {
         noSuchScratch();
         noSuchGuest();
         noSuchLaw();
+        lawsAsOfNow();
         worthIsCut();
         worthWithoutALaw();
         oddsOfBackAreCut();
@@ -44,6 +45,7 @@ public final class TurnBoundsTest {
         turnsWhileOut();
         twentyToUndo();
         undoneToWhatWas();
+        roundsOfTheTwentyToUndo();
         nothingToUndoBehindATurn();
         refusedCallsCantBeUndone();
         noImage();
@@ -158,6 +160,38 @@ public final class TurnBoundsTest {
         }
     }
 
+    /** Nothing of the NAMES is left from what was worked out ahead. */
+    private static void lawsAsOfNow() {
+        CHECK.sentence("A law's E now .. odds: .. (of worth 0); worn: .. (of worth 0); heavy: WEIGHT; round: ROUNDS");
+        String told = "groove 3 1;groove 5 1;scrat 0 40 1 0 1;scrat 1 60 1 0 1;";
+        String[] names = {"place", "odds", "worn", "heavy", "round", "heard", "turn"};
+        // Of SCRATCH 0 and 1, then of GROOVE 0 and 1, behind a TURN that threw it BACK and a WEIGHT of 8.
+        int[][] due = {{0, 1, 0, 1}, {40, 60, 0, 0}, {2, 0, 0, 0}, {8, 8, 8, 8}, {1, 1, 1, 1}, {3, 3, 1, 0}, {1, 1, 1, 1}};
+        for (int i = 0; i < names.length; i++) {
+            StuckGroove x = Check.told(told + "law back " + names[i] + "+100*(turn<1);law wear " + names[i] + "+2;law worth " + names[i] + ";");
+            x.go(1);
+            x.weigh(7);
+            x.law(0, 0);
+            x.weigh(8);
+            CHECK.due("worth " + names[i] + " behind a WEIGHT", x.law(2, 0), due[i][2]);
+            x.weigh(7);
+            x.law(2, 0);
+            x.weigh(8);
+            for (int time = 0; time < 2; time++) {
+                for (int which = 0; which < 2; which++) {
+                    CHECK.due("back " + names[i] + " of " + which, x.law(0, which), due[i][which]);
+                    CHECK.due("worth " + names[i] + " of " + which, x.law(2, which), due[i][2 + which]);
+                    CHECK.due("wear " + names[i] + " of " + which, x.law(1, which), due[i][which] + 2);
+                    CHECK.due("odds by " + names[i] + " of " + which, x.scratch(which, 6), due[i][which]);
+                }
+            }
+            x.nudge(1);
+            boolean rounds = names[i].equals("round");
+            CHECK.due("ROUNDS are 0 now, back " + names[i], x.law(0, 0), rounds ? 0 : due[i][0]);
+            CHECK.due("ROUNDS are 0 now, worth " + names[i], x.law(2, 0), rounds ? 0 : due[i][2]);
+        }
+    }
+
     private static int heardOnce(String e) {
         StuckGroove x = Check.told("groove 1 4;law worth " + e + ";");
         x.go(1);
@@ -255,6 +289,13 @@ public final class TurnBoundsTest {
             StuckGroove x = Check.told(told + first[i]);
             x.go(i == 2 ? 3 : 2);
             CHECK.due("behind " + first[i], x.count(5), places[i]);
+        }
+        // Odds of 20 and 20: the numbers 0, 68 and 88 throw it BACK and let it through twice.
+        StuckGroove x = Check.told("groove 1 1;groove 1 1;scrat 0 20 1 20 1;scrat 1 20 1 20 1;law back 20;");
+        int[] alike = {0, 1, -2};
+        for (int i = 0; i < 3; i++) {
+            x.go(1);
+            CHECK.due("odds alike, behind TURN " + i, x.count(5), alike[i]);
         }
     }
 
@@ -355,6 +396,13 @@ public final class TurnBoundsTest {
         CHECK.due("ON: ROUNDS are 0", x.count(9), 0);
         x.go(1);
         CHECK.due("BACK again", x.count(9), 1);
+        x = Check.told(STUCK + "law worth round;");
+        int heard = 0;
+        for (int i = 0; i < 9; i++) {
+            heard += i;
+            x.go(1);
+            CHECK.due("the law of worth sees ROUNDS of TURNS ahead", x.count(7), heard);
+        }
     }
 
     private static void guestsOfEnoughRounds() {
@@ -697,6 +745,27 @@ public final class TurnBoundsTest {
         CHECK.due("as ahead of all", Check.state(x), ahead);
     }
 
+    private static void roundsOfTheTwentyToUndo() {
+        CHECK.sentence("can be undone, the latest first (20 at most)");
+        for (int ahead = 0; ahead <= 30; ahead++) {
+            StuckGroove x = Check.told(FIVE + "scrat 3 0 1 0 1;law back 100;");
+            x.go(4);
+            for (int i = 0; i < 31; i++) {
+                if (i == ahead) {
+                    x.nudge(1);
+                } else {
+                    x.weigh(i % 10);
+                }
+            }
+            for (int i = 30; i >= 11; i--) {
+                x.undo();
+                CHECK.due("a NUDGE was " + ahead + ", ROUNDS ahead of " + i, x.count(9), i <= ahead ? 1 : 0);
+                CHECK.due("a NUDGE was " + ahead + ", the GROOVE ahead of " + i, x.count(5), i <= ahead ? 2 : 3);
+            }
+            CHECK.due("no more", x.undo(), -1);
+        }
+    }
+
     private static void nothingToUndoBehindATurn() {
         CHECK.sentence("if no TURN went by since");
         StuckGroove x = Check.told(FIVE);
@@ -746,6 +815,7 @@ public final class TurnBoundsTest {
         Check.tell(x, FIVE);
         CHECK.due("back() behind a TEXT", x.back(), -1);
         CHECK.due("keep() without GROOVES", new StuckGroove().keep(), 0);
+        CHECK.due("back() of a new one", new StuckGroove().back(), -1);
     }
 
     private static void oneImage() {
