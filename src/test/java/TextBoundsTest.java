@@ -16,6 +16,7 @@ public final class TextBoundsTest {
         faultOfTheLatest();
         wordsOfOneToSixLetters();
         blanksAreTenAndThirtyTwo();
+        signsOfE();
         lettersAndDigitsEnd();
         linesEndWithASemicolon();
         moreMustCome();
@@ -263,6 +264,27 @@ public final class TextBoundsTest {
                 faulty(text, 1, 0);
             } else {
                 faulty(text, 1, 3);
+            }
+        }
+    }
+
+    /** Each byte ahead of an operand and behind one. */
+    private static void signsOfE() {
+        CHECK.sentence("1 a TOKEN that is none or can't stand there");
+        for (int c = 0; c < 256; c++) {
+            String ahead = "law back " + (char) c + "1;";
+            String behind = "law back 1" + (char) c + ";";
+            boolean digit = c >= '0' && c <= '9';
+            if (digit || c == 10 || c == 32) {
+                right(ahead, 1);
+                right(behind, 1);
+            } else if (c == '(') {
+                faulty(ahead, 1, 11);
+                faulty(behind, 1, 10);
+            } else {
+                faulty(ahead, 1, 9);
+                // A sign wants more behind it, where ';' stands.
+                faulty(behind, 1, "+-*/<>=".indexOf(c) >= 0 || c == ';' ? 11 : 10);
             }
         }
     }

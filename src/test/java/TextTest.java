@@ -13,6 +13,7 @@ public final class TextTest {
         bounds();
         cuts();
         oneObject();
+        manyFaults();
         toldAlready();
         naming();
         CHECK.close("TextTest");
@@ -276,6 +277,17 @@ public final class TextTest {
             CHECK.due("needle", x.needle(9), 1);
             CHECK.due("weight", x.count(10), 3);
             CHECK.due("law", x.law(2, 0), Long.MIN_VALUE);
+        }
+    }
+
+    /** What a FAULT left open is gone with it. */
+    private static void manyFaults() {
+        StuckGroove x = new StuckGroove();
+        for (int i = 0; i < 20; i++) {
+            CHECK.due("eight open", Check.tell(x, "law back " + Check.times("(", 8) + ";"), -1);
+            CHECK.due("a sum that waits", Check.tell(x, "law back 1+2*not"), -1);
+            CHECK.due("a right one", Check.tell(x, "groove 1 1;law worth " + Check.times("(", 8) + "2+3*4" + Check.times(")", 8) + ";"), 2);
+            CHECK.due("its value", x.law(2, 0), 14);
         }
     }
 

@@ -290,6 +290,10 @@ public final class TurnBoundsTest {
             x.go(i == 2 ? 3 : 2);
             CHECK.due("behind " + first[i], x.count(5), places[i]);
         }
+        StuckGroove none = Check.told(FIVE + "scrat 0 0 1 0 3;scrat 1 0 1 0 3;law back 0;");
+        none.go(1);
+        CHECK.due("to the next one, not ON", none.count(5), 1);
+        CHECK.due("nor as it goes", none.reaches(2, 9), 2);
         // Odds of 20 and 20: the numbers 0, 68 and 88 throw it BACK and let it through twice.
         StuckGroove x = Check.told("groove 1 1;groove 1 1;scrat 0 20 1 20 1;scrat 1 20 1 20 1;law back 20;");
         int[] alike = {0, 1, -2};
@@ -509,10 +513,36 @@ public final class TurnBoundsTest {
         CHECK.due("times 2", value("(" + top + ")*2"), ERROR);
         CHECK.due("times 0 less 2", value("(" + top + ")*(0-2)"), ERROR);
         CHECK.due("times itself", value("(" + top + ")*(" + top + ")"), ERROR);
-        CHECK.due("wrapped round to 0", value("(256*256*256*256)*(256*256*256*256)"), ERROR);
-        CHECK.due("wrapped round to a small one", value("(4096*4096*4096*8)*(4096*4096*4096*8+1)*8"), ERROR);
+        CHECK.due("below 0 times 1", value("(0-" + top + ")*1"), -1000000000000L);
+        CHECK.due("below 0 times 2", value("(0-" + top + ")*2"), ERROR);
+        CHECK.due("below 0 times 0 less 1", value("(0-" + top + ")*(0-1)"), 1000000000000L);
+        CHECK.due("below 0 times 0 less 2", value("(0-" + top + ")*(0-2)"), ERROR);
+        CHECK.due("small ones", value("(0-7)*2"), -14);
+        CHECK.due("small ones", value("7*(0-2)"), -14);
+        CHECK.due("small ones", value("(0-7)*(0-2)"), 14);
+        CHECK.due("0 times below 0", value("0*(0-2)"), 0);
+        CHECK.due("below 0 times 0", value("(0-2)*0"), 0);
+        // 2 to the 32 times itself is 2 to the 64: 0 in a long.
+        String wide = "(256*256*256*256)";
+        String below = "(0-256*256*256*256)";
+        CHECK.due("wrapped round to 0", value(wide + "*" + wide), ERROR);
+        CHECK.due("wrapped round to 0", value(wide + "*" + below), ERROR);
+        CHECK.due("wrapped round to 0", value(below + "*" + wide), ERROR);
+        CHECK.due("wrapped round to 0", value(below + "*" + below), ERROR);
+        for (int a = 25; a <= 39; a++) {
+            CHECK.due("2 to the " + a, value(power(a)), 1L << a);
+            CHECK.due("2 to the " + a + " below 0", value("(0-" + power(a) + ")*1"), -(1L << a));
+            for (int b = 64 - a; b <= 39; b++) {
+                CHECK.due("2 to the " + a + " times 2 to the " + b, value(power(a) + "*" + power(b)), ERROR);
+                CHECK.due("below 0", value("(0-" + power(a) + ")*" + power(b)), ERROR);
+            }
+        }
         CHECK.due("both sides top", value("(" + top + ")-(" + top + ")"), 0);
         CHECK.due("both sides top, in sum", value("(" + top + ")+(" + top + ")"), ERROR);
+    }
+
+    private static String power(int ofTwo) {
+        return "(4096*4096*" + (1 << (ofTwo - 24) / 2) + "*" + (1 << (ofTwo - 23) / 2) + ")";
     }
 
     private static void dividing() {
